@@ -369,6 +369,38 @@ public final class LawEdgesTest {
             counted += x.fits(any);
         }
         E.due("laws(0), one by one", counted, all);
+        for (String areas : new String[] {"area a 1;area b 7;area c 13;area d 20;", "area a 20;area b 1;area c 9;area d 4;",
+            "area a 3;area b 17;area c 2;area d 11;"}) {
+            oneByOne(areas);
+        }
+    }
+
+    /** AREAS that are all unlike: a PART taken for another one would be seen. */
+    private static void oneByOne(String areas) {
+        MissingHoles x = Edges.taken(areas + "hits 1 3 2 1;other 50;slip 18;");
+        x.draw(99);
+        x.draw(99);
+        int[] least = {11, 11, 11, 11};
+        int[] most = {-1, -1, -1, -1};
+        int counted = 0;
+        int last = -1;
+        for (int law = 0; law <= 14640; law++) {
+            if (x.fits(law) == 1) {
+                counted++;
+                last = law;
+                for (int p = 0, rest = law; p < 4; p++, rest /= 11) {
+                    least[3 - p] = Math.min(least[3 - p], rest % 11);
+                    most[3 - p] = Math.max(most[3 - p], rest % 11);
+                }
+            }
+        }
+        E.due("some laws fit, not all", counted > 0 && counted < 14641 ? 1 : 0, 1);
+        E.due("laws(0), one by one, " + areas, x.laws(0), counted);
+        E.due("laws(2), one by one, " + areas, x.laws(2), last);
+        for (int p = 0; p < 4; p++) {
+            E.due("span(" + p + ", 0), one by one, " + areas, x.span(p, 0), least[p]);
+            E.due("span(" + p + ", 1), one by one, " + areas, x.span(p, 1), most[p]);
+        }
     }
 
     private static MissingHoles fittedByNone() {
@@ -400,6 +432,10 @@ public final class LawEdgesTest {
             E.due("laws(0), one", one.laws(0), 1);
             E.due("laws(1), one", one.laws(1), law);
             E.due("laws(2), one", one.laws(2), law);
+            for (int p = 0; p < 4; p++) {
+                E.due("span(" + p + ", 0), one", one.span(p, 0), falls);
+                E.due("span(" + p + ", 1), one", one.span(p, 1), falls);
+            }
         }
         E.sentence("promise 18", "LAWS that FIT (as it changes)");
         MissingHoles y = new MissingHoles();
@@ -424,7 +460,17 @@ public final class LawEdgesTest {
         E.due("a text that does not", y.laws(0), 0);
         Edges.told(y, "hits 1 0 0 0;slip 0;");
         y.draw(99);
-        E.due("drawn", y.laws(0), 1331);
+        E.due("drawn, as the text wants", y.laws(0), 1331);
+        Edges.told(y, "hits 1 0 0 0;slip 0;other 500;");
+        y.undo();
+        y.undo();
+        E.due("taken back", y.laws(0), 1331);
+        y.seed(0);
+        y.draw(1);
+        E.due("drawn: one is home or not, a half is due", y.laws(0), 0);
+        y.undo();
+        Edges.told(y, "hits 1 0 0 0;slip 0;");
+        E.due("taken back", y.laws(0), 1331);
         Edges.told(y, "?");
         E.due("a text with a FAULT", y.laws(0), 1331);
     }

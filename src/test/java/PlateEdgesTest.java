@@ -312,6 +312,35 @@ public final class PlateEdgesTest {
         E.due("unlike(0), of two", two.unlike(0), Edges.law(5, 0, 0, 6));
         E.due("unlike(1), of two", two.unlike(1), Edges.law(5, 0, 0, 7));
         E.due("unlike(2), of two", two.unlike(2), 3);
+        farthest();
+    }
+
+    private static void farthest() {
+        E.sentence("promise 28", "the PART in which their FALLS are farthest apart");
+        // one PART falls by 6 or 7, another by 7 or 6: which of their plates is BEST hangs on the first; a third falls by 10, too heavy for a plate
+        for (int p = 0; p < 4; p++) {
+            for (int q = 0; q < 4; q++) {
+                for (int r = 0; r < 4; r++) {
+                    if (p != q && q != r && r != p) {
+                        farthest(p, q, r);
+                    }
+                }
+            }
+        }
+    }
+
+    private static void farthest(int p, int q, int r) {
+        MissingHoles x = Edges.taken("hits 0 0 0 1;plate " + (char) ('a' + r) + " 6;limit 5;slip 99;");
+        int still = p < q ? 7 : 6;
+        for (int any = 0; any < 4; any++) {
+            x.ground(any, 20, any == p ? 13 : any == q ? 2 * still : any == r ? 20 : 0);
+        }
+        E.due("laws(0)", x.laws(0), 2);
+        E.due("best of the first", x.best(x.laws(1)), 1 << q);
+        E.due("best of the last", x.best(x.laws(2)), 1 << p);
+        E.due("unlike(0)", x.unlike(0), x.laws(1));
+        E.due("unlike(1)", x.unlike(1), x.laws(2));
+        E.due("unlike(2)", x.unlike(2), p);
     }
 
     private static void trialBounds() {
