@@ -12,6 +12,7 @@ public final class LawEdgesTest {
         holesBounds();
         holesEdges();
         lowestTerms();
+        fitsBounds();
         slipOfHomes();
         slipOfHomesAbove();
         slipOfParts();
@@ -199,6 +200,19 @@ public final class LawEdgesTest {
             E.due(text + " fits(" + law + ") with SLIP " + (least + 1), x.fits(law), 1);
         }
         E.due(text + " near(" + law + ")", x.near(law), least);
+    }
+
+    private static void fitsBounds() {
+        E.sentence("promise 17", "Whether a LAW FITS (1, 0). BAD.");
+        MissingHoles all = new MissingHoles();
+        MissingHoles none = fittedByNone();
+        for (int law : new int[] {0, 1, 10, 11, 14639, 14640}) {
+            E.due("fits(" + law + "), all fit", all.fits(law), 1);
+            E.due("fits(" + law + "), none fits", none.fits(law), 0);
+        }
+        for (int law : NO_LAWS) {
+            E.refused(none, "fits(" + law + "), none fits", () -> none.fits(law), BAD);
+        }
     }
 
     private static void slipOfHomes() {
@@ -598,6 +612,12 @@ public final class LawEdgesTest {
         cost(300, 300, 300, 0, 100);
         cost(300, 300, 300, 1, 100);
         cost(0, 0, 900, 49, 99);
+        E.sentence("promise 21", "COST: p. NONE: no p does.");
+        // by p 100 homes are no more than what they are part of, so that there is always one
+        cost(949, 0, 0, 0, 100);
+        cost(0, 949, 0, 0, 100);
+        cost(0, 0, 949, 0, 100);
+        cost(0, 0, 0, 949, 1);
     }
 
     private static void nearEdges() {

@@ -157,6 +157,13 @@ public final class PlateEdgesTest {
         E.due("best, whatever weight brings none falls", weight.best(0), 0);
         MissingHoles nought = Edges.taken("limit 0;plate c 0;");
         E.due("best, what weighs nothing is within LIMIT 0", nought.best(Edges.law(9, 9, 9, 9)), 4);
+        E.sentence("promise 24", "BEST for a LAW: PLATES. BAD.");
+        MissingHoles none = new MissingHoles();
+        none.told(99, 0, 0);
+        E.due("best(14640), though it does not fit", none.best(14640), 3);
+        for (int law : new int[] {-1, 14641, MIN, MAX}) {
+            E.refused(none, "best(" + law + ")", () -> none.best(law), BAD);
+        }
     }
 
     private static void safest() {

@@ -387,6 +387,18 @@ public final class SheetEdgesTest {
             }
             E.due("count(1)", x.count(1), 3);
         }
+        MissingHoles x = new MissingHoles();
+        x.sheet(0, 2, 48);
+        for (int i = 0; i < 48; i++) {
+            x.lay(0, i, -1);
+        }
+        // what stands ahead of CELL f and behind the last HOME is not looked at; each HOME has its own three
+        lay(x, 0, 8, 0, 0, 0, 3, 3, 0, 0, 0, 0, 3, 0, 0);
+        E.due("read among bad CELLS", x.read(0, 2, 8, 3), 3);
+        E.due("known(4)", x.known(4), 3);
+        E.due("read of one of them", x.read(0, 2, 12, 1), 1);
+        E.due("read of one more", x.read(0, 2, 8, 4), -23);
+        E.due("read from one CELL ahead", x.read(0, 2, 7, 1), -20);
     }
 
     private static void torn() {

@@ -317,7 +317,10 @@ public final class TextEdgesTest {
             faulty("z" + name + " 5;", 0, 2);
             faulty("slip 5;" + name.substring(1) + "?", 7, 2);
             faulty(name.toUpperCase() + " 5;", 0, 1);
-            faulty(name.substring(0, name.length() - 1) + "z 5;", 0, 2);
+            for (int i = 0; i < name.length(); i++) {
+                faulty(name.substring(0, i) + "z" + name.substring(i + 1) + " 5;", 0, 2);
+                faulty(name.substring(0, i) + "z" + name.substring(i + 1) + " a 5;", 0, 2);
+            }
         }
         faulty("a", 0, 2);
         faulty("d 5;", 0, 2);
