@@ -188,7 +188,7 @@ public final class MissingHoles {
         if (size == 0) {
             return NONE;
         }
-        return grid.list[what == 1 ? 0 : size - 1];
+        return what == 1 ? grid.least : grid.greatest;
     }
 
     public int span(int p, int what) {
@@ -198,11 +198,10 @@ public final class MissingHoles {
         if (grid.fitting() == 0) {
             return NONE;
         }
-        int[] tally = grid.tallyOf(p);
         int least = MOST_FALLS;
         int most = 0;
         for (int falls = 0; falls <= MOST_FALLS; falls++) {
-            if (tally[falls] > 0) {
+            if (grid.withFalls(p, falls) > 0) {
                 least = Math.min(least, falls);
                 most = falls;
             }
@@ -293,11 +292,10 @@ public final class MissingHoles {
         if (other == NONE) {
             return NONE;
         }
-        int least = grid.list[0];
         if (what == 2) {
-            return farthestPart(least, other);
+            return farthestPart(grid.least, other);
         }
-        return what == 0 ? least : other;
+        return what == 0 ? grid.least : other;
     }
 
     public int trial(int p, int k, int what) {
@@ -307,14 +305,13 @@ public final class MissingHoles {
         if (grid.fitting() == 0) {
             return NONE;
         }
-        int[] tally = grid.tallyOf(p);
         if (what <= 20) {
-            return leftBy(tally, k, what);
+            return grid.leftBy(p, k, what);
         }
         int most = 0;
         int some = 0;
         for (int f = 0; f <= k; f++) {
-            int left = leftBy(tally, k, f);
+            int left = grid.leftBy(p, k, f);
             most = Math.max(most, left);
             some += left > 0 ? 1 : 0;
         }
@@ -455,14 +452,6 @@ public final class MissingHoles {
 
     private static boolean isNearTrial(int shots, int f, int falls) {
         return Math.abs(10 * f - shots * falls) <= 10;
-    }
-
-    private static int leftBy(int[] tally, int shots, int f) {
-        int left = 0;
-        for (int falls = 0; falls <= MOST_FALLS; falls++) {
-            left += isNearTrial(shots, f, falls) ? tally[falls] : 0;
-        }
-        return left;
     }
 
     private static long lowest(long top, long bottom, int what) {
@@ -611,11 +600,9 @@ public final class MissingHoles {
             start = at;
             if (at >= size) {
                 kind = END;
-            } else if (isBetween(at, 'a', 'z')) {
-                skip('a', 'z');
+            } else if (skips('a', 'z')) {
                 kind = NAME;
-            } else if (isBetween(at, '0', '9')) {
-                skip('0', '9');
+            } else if (skips('0', '9')) {
                 kind = at - start <= MOST_FIGURES ? NUMBER : NO_TOKEN;
             } else if (bytes[at] == ';') {
                 at++;
@@ -652,14 +639,12 @@ public final class MissingHoles {
             return true;
         }
 
-        private boolean isBetween(int place, char low, char high) {
-            return place < size && bytes[place] >= low && bytes[place] <= high;
-        }
-
-        private void skip(char low, char high) {
-            while (at < size && isBetween(at, low, high)) {
+        /** Passes all signs of a kind: whether there was one. */
+        private boolean skips(char low, char high) {
+            while (at < size && bytes[at] >= low && bytes[at] <= high) {
                 at++;
             }
+            return at > start;
         }
     }
 
@@ -960,17 +945,23 @@ public final class MissingHoles {
     /** The LAWS that FIT, found anew only when something they hang on has changed. */
     private static final class Grid {
         static final int UNKNOWN = -9;
+        static final int NO_RATE = -1;
+        static final int FIGURES = 11;
+        static final int ROWS = LAWS / FIGURES;
 
         final Terms terms;
         final Homes homes;
         final Evidence evidence;
-        /** The LAWS that FIT, from the least on. */
-        final int[] list = new int[LAWS];
-        final boolean[] homesFit = new boolean[MOST_STAND + 1];
+        /** The LAWS that FIT: a row for the figures of PARTS 0 to 2, in it a bit for each figure of PART 3. */
+        final int[] rows = new int[ROWS];
+        /** For each X what holes are worked out by; NO_RATE, if by this X no LAW FITS. */
         final long[] rates = new long[MOST_STAND + 1];
-        final int[] tally = new int[MOST_FALLS + 1];
+        /** For each PART and each FALLS of it how many LAWS FIT. */
+        final int[] tally = new int[PARTS * FIGURES];
         final int[] worst = new int[SETS];
         int size;
+        int least;
+        int greatest;
         boolean stale = true;
         int safestFound = UNKNOWN;
         int unlikeFound = UNKNOWN;
@@ -1015,20 +1006,24 @@ public final class MissingHoles {
             return size;
         }
 
-        int[] tallyOf(int p) {
+        /** How many LAWS FIT by which a PART has these FALLS. */
+        int withFalls(int p, int falls) {
+            return tally[FIGURES * p + falls];
+        }
+
+        /** How many of the LAWS that FIT would be left by a trial. */
+        int leftBy(int p, int shots, int f) {
+            int left = 0;
             for (int falls = 0; falls <= MOST_FALLS; falls++) {
-                tally[falls] = 0;
+                left += isNearTrial(shots, f, falls) ? withFalls(p, falls) : 0;
             }
-            for (int i = 0; i < size; i++) {
-                tally[figure(list[i], p)]++;
-            }
-            return tally;
+            return left;
         }
 
         int oftenerIn(int p, int r) {
             int more = 0;
-            for (int i = 0; i < size; i++) {
-                more += figure(list[i], p) > figure(list[i], r) ? 1 : 0;
+            for (int law = least; law <= greatest; law++) {
+                more += isKept(law) && figure(law, p) > figure(law, r) ? 1 : 0;
             }
             return more;
         }
@@ -1039,10 +1034,12 @@ public final class MissingHoles {
                 for (int set = 0; set < SETS; set++) {
                     worst[set] = MOST_STAND;
                 }
-                for (int i = 0; i < size; i++) {
-                    plating.standAll(list[i]);
-                    for (int set = 0; set < SETS; set++) {
-                        worst[set] = Math.min(worst[set], plating.stands[set]);
+                for (int law = least; law <= greatest; law++) {
+                    if (isKept(law)) {
+                        plating.standAll(law);
+                        for (int set = 0; set < SETS; set++) {
+                            worst[set] = Math.min(worst[set], plating.stands[set]);
+                        }
                     }
                 }
                 safestFound = plating.mostHomes(worst);
@@ -1054,10 +1051,10 @@ public final class MissingHoles {
         int unlikeLaw(Plating plating) {
             if (unlikeFound == UNKNOWN) {
                 unlikeFound = NONE;
-                int first = plating.bestFor(list[0]);
-                for (int i = 1; i < size && unlikeFound == NONE; i++) {
-                    if (plating.bestFor(list[i]) != first) {
-                        unlikeFound = list[i];
+                int first = plating.bestFor(least);
+                for (int law = least + 1; law <= greatest && unlikeFound == NONE; law++) {
+                    if (isKept(law) && plating.bestFor(law) != first) {
+                        unlikeFound = law;
                     }
                 }
             }
@@ -1083,13 +1080,12 @@ public final class MissingHoles {
         private void settleStands() {
             int slip = terms.rules[Terms.SLIP];
             for (int x = 0; x <= MOST_STAND && x <= terms.scale; x++) {
-                homesFit[x] = homesAreNear(x, slip);
-                rates[x] = homesFit[x] ? terms.holeRate(x) : 0;
+                rates[x] = homesAreNear(x, slip) ? terms.holeRate(x) : NO_RATE;
             }
         }
 
         private void gather() {
-            size = 0;
+            keepNone();
             for (int a = 0; a <= MOST_FALLS; a++) {
                 for (int b = 0; b <= MOST_FALLS; b++) {
                     if (evidence.allows(0, a) && evidence.allows(1, b)) {
@@ -1107,13 +1103,41 @@ public final class MissingHoles {
                 }
                 for (int d = 0; d <= MOST_FALLS; d++) {
                     int x = stand + terms.partStand(2, c) + terms.partStand(3, d);
-                    if (x >= 0 && x <= MOST_STAND && homesFit[x] && evidence.allows(3, d)
-                        && allHolesAreNear(a, b, c, d, rates[x]) && size < LAWS) {
-                        list[size] = ((a * 11 + b) * 11 + c) * 11 + d;
-                        size++;
+                    if (x >= 0 && x <= MOST_STAND && rates[x] != NO_RATE && evidence.allows(3, d)
+                        && allHolesAreNear(a, b, c, d, rates[x])) {
+                        keep(a, b, c, d);
                     }
                 }
             }
+        }
+
+        private void keepNone() {
+            for (int row = 0; row < ROWS; row++) {
+                rows[row] = 0;
+            }
+            for (int i = 0; i < PARTS * FIGURES; i++) {
+                tally[i] = 0;
+            }
+            size = 0;
+            least = 0;
+            greatest = -1;
+        }
+
+        private void keep(int a, int b, int c, int d) {
+            int row = (a * FIGURES + b) * FIGURES + c;
+            int law = row * FIGURES + d;
+            rows[row] |= 1 << d;
+            tally[a]++;
+            tally[FIGURES + b]++;
+            tally[2 * FIGURES + c]++;
+            tally[3 * FIGURES + d]++;
+            least = size == 0 ? law : least;
+            greatest = law;
+            size++;
+        }
+
+        private boolean isKept(int law) {
+            return law >= 0 && law < LAWS && (rows[law / FIGURES] >> law % FIGURES & 1) == 1;
         }
 
         private boolean allHolesAreNear(int a, int b, int c, int d, long rate) {

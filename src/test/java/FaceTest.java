@@ -1,12 +1,16 @@
 import java.io.IOException;
 import java.lang.management.ManagementFactory;
+import java.lang.reflect.Array;
 import java.lang.reflect.Field;
 import java.lang.reflect.Method;
 import java.lang.reflect.Modifier;
 import java.nio.file.Files;
 import java.nio.file.Path;
 import java.util.ArrayList;
+import java.util.Collections;
+import java.util.IdentityHashMap;
 import java.util.List;
+import java.util.Set;
 import java.util.TreeSet;
 
 /** The face of the class, the words that LANGUAGE.md rules out, and the room that calls take. */
@@ -17,6 +21,8 @@ public final class FaceTest {
         + " say(int,int)int cost()int near(int)int lost(int,int,int)long best(int)int safest()int drawing()int"
         + " wrong(int)int unlike(int)int trial(int,int,int)int sheet(int,int,int)int lay(int,int,int)int"
         + " read(int,int,int,int)int torn()int count(int)int";
+    /** What one room holds, and how many calls a run has at most: each of them may make a new object. */
+    private static final long ROOM_OBJECTS = 600000, ROOM_ELEMENTS = 7300000, CALLS = 512;
     private static int wrong = 0;
 
     private static void due(String what, Object got, Object want) {
@@ -26,10 +32,11 @@ public final class FaceTest {
         }
     }
 
-    public static void main(String[] args) throws IOException {
+    public static void main(String[] args) throws IOException, IllegalAccessException {
         face();
         source(Files.readString(Path.of("src/main/java/MissingHoles.java")));
         room();
+        roomOfNewObjects();
         System.out.println(wrong == 0 ? "the face is as due" : wrong + " things are not as due");
         if (wrong != 0) {
             System.exit(1);
@@ -113,6 +120,36 @@ public final class FaceTest {
         }
         long made = bean.getThreadAllocatedBytes(id) - ahead;
         due("bytes that 20 rounds of all calls make are few: " + made, made < 4096, true);
+    }
+
+    /** The dearest call is the constructor: a run of nothing but new objects stays within half of the room. */
+    private static void roomOfNewObjects() throws IllegalAccessException {
+        Set<Object> found = Collections.newSetFromMap(new IdentityHashMap<>());
+        long elements = elementsOf(new MissingHoles(), found);
+        due("objects of " + CALLS + " new ones, " + found.size() + " each, are few", CALLS * found.size() < ROOM_OBJECTS / 2, true);
+        due("elements of " + CALLS + " new ones, " + elements + " each, are few", CALLS * elements < ROOM_ELEMENTS / 2, true);
+    }
+
+    /** Fields and elements of an object and of all that it holds. */
+    private static long elementsOf(Object o, Set<Object> found) throws IllegalAccessException {
+        if (o == null || !found.add(o)) {
+            return 0;
+        }
+        long all = 0;
+        if (o.getClass().isArray()) {
+            int length = Array.getLength(o);
+            for (int i = 0; i < length && !o.getClass().getComponentType().isPrimitive(); i++) {
+                all += elementsOf(Array.get(o, i), found);
+            }
+            return all + length;
+        }
+        for (Field f : o.getClass().getDeclaredFields()) {
+            if (!Modifier.isStatic(f.getModifiers())) {
+                f.setAccessible(true);
+                all += 1 + (f.getType().isPrimitive() ? 0 : elementsOf(f.get(o), found));
+            }
+        }
+        return all;
     }
 
     private static void everyCall(MissingHoles x) {
